@@ -685,19 +685,13 @@ public final class ValueDays {
                 }
             } else if (isDigit(sign)) {
                 kind = NUMBER;
-                takeDigits();
+                number = sign - '0';
+                while (stop < tape.length() && isDigit(tape.byteAt(stop))) {
+                    number = number < LARGE ? number * 10 + tape.byteAt(stop) - '0' : number;
+                    stop++;
+                }
             } else {
                 kind = sign == ';' ? SIGN : STRANGE;
-            }
-        }
-
-        private void takeDigits() {
-            number = tape.byteAt(start) - '0';
-            while (stop < tape.length() && isDigit(tape.byteAt(stop))) {
-                if (number < LARGE) {
-                    number = number * 10 + tape.byteAt(stop) - '0';
-                }
-                stop++;
             }
         }
 
@@ -1173,23 +1167,26 @@ public final class ValueDays {
         }
 
         long credit(int day, long balance) {
+            if (day < 0 || day >= Ledger.MOST_DAYS) {
+                return 0;
+            }
             long sum = 0;
             long below = 0;
             for (int tier = 0; tier < tiers && below < balance; tier++) {
-                long top = topOf(tier, balance);
-                sum += (top - below) * rule(tier, day);
+                long top = tops[tier] == NONE ? balance : Math.min(balance, tops[tier]);
+                sum += (top - below) * rules[tier][day];
                 below = top;
             }
             return sum;
         }
 
         long debt(int day, long balance) {
-            return balance < 0 ? debtBy(day, balance, rule(LIMIT, day)) : 0;
+            return balance < 0 ? debtBy(rule(LIMIT, day), day, balance) : 0;
         }
 
-        long debtBy(int day, long balance, int limit) {
-            long owed = Math.max(0, -balance);
-            long within = Math.min(owed, limit);
+        long debtBy(int limit, int day, long balance) {
+            long owed = balance < 0 ? -balance : 0;
+            long within = owed < limit ? owed : limit;
             return within * rule(DEBIT, day) + (owed - within) * rule(OVER, day);
         }
 
@@ -1271,18 +1268,14 @@ public final class ValueDays {
             values[size] = value;
             pages[size] = page;
             origins[size] = origin;
-            putInOrder(size, value);
-            size++;
-        }
-
-        /** Behind all of its value day, since its number is the highest. */
-        private void putInOrder(int entry, int value) {
-            int at = entry;
+            // Behind all of its value day, since its number is the highest.
+            int at = size;
             while (at > 0 && valueOf(order[at - 1]) > value) {
                 order[at] = order[at - 1];
                 at--;
             }
-            order[at] = entry;
+            order[at] = size;
+            size++;
         }
 
         boolean isTurnedBack(int entry) {
@@ -1537,14 +1530,14 @@ public final class ValueDays {
 
         private void closeOpen() {
             if (hasOpen()) {
-                addEntry(Entries.INTEREST, interestNow(closed), compoundingDay(closed), closed);
+                addEntry(Entries.INTEREST, interest(balances, closed, 0, 0), compoundingDay(closed), closed);
                 closed++;
             }
         }
 
         private void runAnew() {
             for (int period = 0; period < closed; period++) {
-                long more = interestNow(period) - entries.interestBooked(period);
+                long more = interest(balances, period, 0, 0) - entries.interestBooked(period);
                 if (more != 0) {
                     addEntry(Entries.CORRECTION, more, compoundingDay(period), period);
                 }
@@ -1929,7 +1922,7 @@ public final class ValueDays {
             int first = ledger.firstDay(period);
             for (int day = first; day < first + ledger.span(); day++) {
                 long standing = ledger.standing(day);
-                sum += terms.credit(day, standing) - terms.debtBy(day, standing, limit);
+                sum += terms.credit(day, standing) - terms.debtBy(limit, day, standing);
             }
             return sum;
         }
