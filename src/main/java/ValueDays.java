@@ -1173,7 +1173,7 @@ public final class ValueDays {
             long sum = 0;
             long below = 0;
             for (int tier = 0; tier < tiers && below < balance; tier++) {
-                long top = tops[tier] == NONE ? balance : Math.min(balance, tops[tier]);
+                long top = tops[tier] == NONE || tops[tier] > balance ? balance : tops[tier];
                 sum += (top - below) * rules[tier][day];
                 below = top;
             }
@@ -1181,13 +1181,16 @@ public final class ValueDays {
         }
 
         long debt(int day, long balance) {
-            return balance < 0 ? debtBy(rule(LIMIT, day), day, balance) : 0;
+            return day < 0 || day >= Ledger.MOST_DAYS ? 0 : debtBy(rules[LIMIT][day], day, balance);
         }
 
         long debtBy(int limit, int day, long balance) {
-            long owed = balance < 0 ? -balance : 0;
+            if (balance >= 0 || day < 0 || day >= Ledger.MOST_DAYS) {
+                return 0;
+            }
+            long owed = -balance;
             long within = owed < limit ? owed : limit;
-            return within * rule(DEBIT, day) + (owed - within) * rule(OVER, day);
+            return within * rules[DEBIT][day] + (owed - within) * rules[OVER][day];
         }
 
         /** How much more a day's product is, were a tier's rate so much more, 0 at least. */
@@ -1270,7 +1273,7 @@ public final class ValueDays {
             origins[size] = origin;
             // Behind all of its value day, since its number is the highest.
             int at = size;
-            while (at > 0 && valueOf(order[at - 1]) > value) {
+            while (at > 0 && values[order[at - 1]] > value) {
                 order[at] = order[at - 1];
                 at--;
             }
@@ -1417,7 +1420,7 @@ public final class ValueDays {
             int met = 0;
             int last = NONE;
             for (int k = 0; k < size; k++) {
-                int value = valueOf(order[k]);
+                int value = values[order[k]];
                 if (value < day && value != last) {
                     met++;
                     last = value;
@@ -1530,14 +1533,15 @@ public final class ValueDays {
 
         private void closeOpen() {
             if (hasOpen()) {
-                addEntry(Entries.INTEREST, interest(balances, closed, 0, 0), compoundingDay(closed), closed);
+                long amount = nearest(productsOf(balances, closed, 0, 0));
+                addEntry(Entries.INTEREST, amount, compoundingDay(closed), closed);
                 closed++;
             }
         }
 
         private void runAnew() {
             for (int period = 0; period < closed; period++) {
-                long more = interest(balances, period, 0, 0) - entries.interestBooked(period);
+                long more = nearest(productsOf(balances, period, 0, 0)) - entries.interestBooked(period);
                 if (more != 0) {
                     addEntry(Entries.CORRECTION, more, compoundingDay(period), period);
                 }
@@ -1557,10 +1561,10 @@ public final class ValueDays {
         }
 
         long interestOfAll() {
-            return interestOfAll(balances, 0, 0);
+            return interestOfAllBy(balances, 0, 0);
         }
 
-        long interestOfAll(long[] standings, int from, long more) {
+        long interestOfAllBy(long[] standings, int from, long more) {
             long sum = 0;
             for (int period = 0; period < periods; period++) {
                 sum += interest(standings, period, from, more);
@@ -1836,7 +1840,7 @@ public final class ValueDays {
         long gainByMoving(int entry, int day) {
             long[] standings = ledger.trialBalances();
             ledger.shift(standings, entries.valueOf(entry), -entries.amountOf(entry));
-            return ledger.interestOfAll(standings, day, entries.amountOf(entry)) - ledger.interestOfAll();
+            return ledger.interestOfAllBy(standings, day, entries.amountOf(entry)) - ledger.interestOfAll();
         }
 
         /**
@@ -1895,12 +1899,12 @@ public final class ValueDays {
             long sum = 0;
             for (int period = 0; period < ledger.periods(); period++) {
                 long products = ledger.productsOf(ledger.balances(), period, 0, 0);
-                sum += Ledger.nearest(products + tiltOf(period, tier, more)) - Ledger.nearest(products);
+                sum += Ledger.nearest(products + tiltIn(period, tier, more)) - Ledger.nearest(products);
             }
             return sum;
         }
 
-        private long tiltOf(int period, int tier, int more) {
+        private long tiltIn(int period, int tier, int more) {
             long sum = 0;
             int first = ledger.firstDay(period);
             for (int day = first; day < first + ledger.span(); day++) {
@@ -1934,7 +1938,7 @@ public final class ValueDays {
             int tooLittle = 0;
             for (int bit = AMOUNT_BIT; bit > 0; bit >>= 1) {
                 int amount = tooLittle + bit;
-                if (amount <= MOST_AMOUNT && ledger.interestOfAll(ledger.balances(), day, amount) < goal) {
+                if (amount <= MOST_AMOUNT && ledger.interestOfAllBy(ledger.balances(), day, amount) < goal) {
                     tooLittle = amount;
                 }
             }
