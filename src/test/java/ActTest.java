@@ -93,6 +93,11 @@ public final class ActTest {
         ValueDays y = Check.told("book days 10 periods 2 compound 1;" + "from 0 limit 5;".repeat(12));
         Check.due("a thirteenth", y.change(0, 6, 6), 13);
         Check.due("limit", y.owing(19, 2), 6);
+        for (int i = 1; i < 20; i++) {
+            Check.due("change", y.change(10, 6, i), 13 + i);
+            Check.due("limit", y.owing(19, 2), i);
+        }
+        Check.due("32 of them", y.count(4), 32);
     }
 
     private static void closeAndRerun() {
@@ -113,9 +118,34 @@ public final class ActTest {
         Check.due("none open", x.rerun(), -5);
         Check.due("acts", x.count(7), 6);
         Check.due("a page that is closed stays", x.page(0, 6), 1010);
+        halves();
         x = Check.told("book days 10 periods 2 compound 1;close;");
         Check.due("interest of 0 is booked", x.count(5), 1);
         Check.due("0", x.entry(0, 1), 0);
+    }
+
+    /** 0.49 and 0.5, of what is paid and of what is owed. */
+    private static void halves() {
+        String owed = "book days 10 periods 2 compound 1;tier 3600;debit 3600 over 3600 limit 0;";
+        for (int sign = -1; sign <= 1; sign += 2) {
+            String word = sign > 0 ? "pay 0 " : "draw 0 ";
+            for (int amount = 49; amount <= 50; amount++) {
+                int due = amount == 50 ? sign : 0;
+                ValueDays x = Check.told(owed + word + amount + ";");
+                Check.due("fresh", x.fresh(0), due);
+                Check.due("all", x.all(), 2 * due);
+                Check.due("ideal", x.ideal(0), due);
+                Check.due("settled", x.settled(), sign * amount + 2 * due);
+                Check.due("close", x.close(), 0);
+                Check.due("booked", x.booked(0), due);
+                x = Check.told(owed + "close;" + word + amount + ";");
+                Check.due("wrong", x.wrong(0), due);
+                Check.due("rights", x.rights(), Math.abs(due));
+                Check.due("righted", x.righted(), due);
+                Check.due("rerun", x.rerun(), Math.abs(due));
+                Check.due("booked", x.booked(0), due);
+            }
+        }
     }
 
     private static void images() {

@@ -6,6 +6,7 @@ public final class BookTest {
         newObject();
         tape();
         book();
+        booksAfterOthers();
         booksThatFail();
         faultsOfTheFirstLine();
         faultsOfTiersAndDebit();
@@ -93,6 +94,29 @@ public final class BookTest {
         x = Check.told(HEAD + "tier 3600;pay 0 1000;close;pay 0 2000;rerun;pay 0 3000;");
         Check.due("booked ahead of the last", x.booked(0), 30);
         Check.due("wrong behind it", x.wrong(0), 30);
+    }
+
+    /** What an earlier text told, with a fault or without, is forgotten. */
+    private static void booksAfterOthers() {
+        ValueDays x = Check.told(HEAD + "tier 5 to 99999;debit 7 over 8 limit 9;" + "from 0 limit 5;".repeat(12) + "rerun;".repeat(6)
+            + "pay 0 1;draw 0 1;".repeat(15) + "close;close;");
+        Check.due("another", Check.tell(x, HEAD + "pay 0 1;"), 2);
+        for (int what = 0; what < 3; what++) {
+            Check.due("owing " + what, x.owing(19, what), 0);
+        }
+        Check.due("changes", x.count(4), 0);
+        Check.due("tiers", x.count(3), 0);
+        Check.due("closed", x.count(6), 0);
+        Check.due("balance", x.balance(19), 1);
+        String full = HEAD + "tier 5 to 3;tier 6;debit 1 over 2 limit 3;" + "from 0 limit 5;".repeat(12) + "pay 0 1;draw 0 1;".repeat(15)
+            + "rerun;".repeat(6) + "close;close;";
+        int lines = 3 + 1 + 12 + 30 + 6 + 2;
+        Check.due("full", Check.tell(x, full), lines);
+        Check.due("full again", Check.tell(x, full), lines);
+        Check.due("full with a fault", Check.tell(x, full + "x"), -4);
+        Check.due("full behind a fault", Check.tell(x, full), lines);
+        Check.due("a tier without top", Check.tell(x, HEAD + "tier 5;"), 2);
+        Check.due("a tier behind it", Check.tell(x, HEAD + "tier 5 to 1;"), 2);
     }
 
     private static void booksThatFail() {
@@ -236,6 +260,14 @@ public final class BookTest {
         Check.fault(HEAD + "Pay 0 5;", 1, 34);
         Check.fault(HEAD + "pAy 0 5;", 1, 34);
         Check.fault(HEAD + "tier 5t", 1, 40);
+        Check.fault(HEAD + "xier 5;", 1, 34);
+        Check.fault("nook days 10 periods 2 compound 1;", 1, 0);
+        Check.fault(HEAD + "closez;", 1, 34);
+        Check.fault(HEAD + "aclose;", 1, 34);
+        Check.fault(HEAD + "pay 0 5:", 1, 41);
+        Check.fault(HEAD + "pay 0 5/", 1, 41);
+        Check.fault(HEAD + "pay 0 5`", 1, 41);
+        Check.fault(HEAD + "pay 0 5{", 1, 41);
     }
 
     private static void bounds() {
@@ -247,7 +279,11 @@ public final class BookTest {
         Check.due("days", x.balance(319), 99998);
         x = Check.told(HEAD + "from 0 limit 5;".repeat(12) + "pay 0 1;draw 0 1;".repeat(15) + "rerun;".repeat(6)
             + "close;close;");
-        Check.due("all lines", x.count(8), 1 + 12 + 30 + 6 + 2);
+        Check.due("many lines", x.count(8), 1 + 12 + 30 + 6 + 2);
+        x = Check.told("book days 2 periods 8 compound 1;tier 1 to 1;tier 1 to 2;tier 1 to 3;tier 1;debit 1 over 1 limit 1;"
+            + "from 0over1;".repeat(12) + "pay 0 1;".repeat(30) + "rerun;".repeat(6) + "close;".repeat(8));
+        Check.due("all lines there can be", x.count(8), 62);
+        Check.due("the last one", x.count(6), 8);
         x = Check.told(HEAD + "close;close;tier 5;debit 1 over 2 limit 3;from 0 tier 0 9;");
         Check.due("behind all periods", x.count(4), 1);
     }

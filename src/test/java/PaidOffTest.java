@@ -20,6 +20,9 @@ public final class PaidOffTest {
         Check.due("gone -1", x.gone(-1), -2);
         Check.due("gone 8", x.gone(8), -2);
         sorts();
+        Check.due("gone asked first", Check.told("book days 10 periods 1 compound 1;draw 5 3;pay 2 9;").gone(0), 5);
+        Check.due("oldest asked first", Check.told("book days 10 periods 1 compound 1;pay 2 2;draw 5 3;").oldest(), 1);
+        Check.due("oldest by number 0", Check.told("book days 10 periods 1 compound 1;draw 5 3;pay 2 2;").oldest(), 0);
         Check.due("no book", new ValueDays().left(0), Check.NO_SUCH);
         Check.due("no book", new ValueDays().gone(0), -2);
         Check.due("no book", new ValueDays().oldest(), -2);

@@ -784,7 +784,7 @@ public final class PlainBook {
         return (int) lack;
     }
 
-    /** Every amount is tried, in jumps that the test has found to be free of surprises: ALL never falls. */
+    /** By halves, as ScanTest finds that ALL never falls as an amount grows. */
     public int needs(int day, int n) {
         if (!day(day) || !in(n, 1, 99999)) {
             return -2;
@@ -801,6 +801,33 @@ public final class PlainBook {
             }
         }
         return low > 99999 ? -1 : low;
+    }
+
+    int needsByScan(int day, int n) {
+        for (int amount = 1; amount <= 99999; amount++) {
+            if (with(day, amount).all() >= s.all() + n) {
+                return amount;
+            }
+        }
+        return -1;
+    }
+
+    int tiltForByScan(int tier, int n) {
+        for (int more = 1; more <= 5000; more++) {
+            if (tilted(tier, more) >= n) {
+                return more;
+            }
+        }
+        return -1;
+    }
+
+    int planByScan(int day, int n) {
+        for (int amount = 0; amount <= 99999; amount++) {
+            if (planned(day, n, amount) >= 0) {
+                return amount;
+            }
+        }
+        return -1;
     }
 
     public long earned(int period, int tier) {

@@ -174,6 +174,10 @@ public final class SettleTest {
         Check.due("day 20", x.plan(20, 1), -2);
         x.draw(0, 1);
         Check.due("above 500.5", x.plan(0, 2), 501);
+        Check.due("1", Check.told("book days 10 periods 2 compound 1;draw 0 1;").plan(0, 1), 1);
+        Check.due("2", Check.told("book days 10 periods 2 compound 1;draw 0 2;").plan(0, 1), 2);
+        Check.due("1 of two", Check.told("book days 10 periods 2 compound 1;draw 0 2;").plan(0, 2), 1);
+        Check.due("0 is 0", Check.told("book days 10 periods 2 compound 1;draw 0 2;pay 19 2;").plan(0, 2), 0);
         x = Check.told("book days 10 periods 2 compound 1;draw 0 99999;");
         Check.due("at most", x.plan(5, 1), 99999);
         x.draw(0, 1);

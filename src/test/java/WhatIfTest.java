@@ -58,6 +58,18 @@ public final class WhatIfTest {
         x = Check.told("book days 10 periods 2 compound 1;tier 0;from 12 tier 0 3600;from 15 tier 0 0;pay 0 9000;draw 13 5000;");
         Check.due("first by which nothing is lost", x.bestDay(1), 15);
         Check.due("first of all ahead", x.bestDay(0), 0);
+        // What is owed costs on days 3 .. 6 alone: paid by day 3 nothing is, drawn behind day 6 nothing is.
+        x = Check.told("book days 5 periods 2 compound 1;from 3 over 5000;from 7 over 0;draw 5 9000;pay 8 9000;");
+        Check.due("drawn", x.bestDay(0), 7);
+        Check.due("paid", x.bestDay(1), 0);
+        // The interest of each period is rounded by itself: 0.49 of one day is none.
+        x = Check.told("book days 10 periods 2 compound 1;tier 3600;pay 9 490;pay 19 490;");
+        Check.due("all days", x.bestDay(0), 0);
+        Check.due("0.98 of two days", x.moved(0, 8), 1);
+        Check.due("0.49 less", x.moved(0, 10), 0);
+        // Drawn on the last day it costs 0.49, which is rounded away.
+        x = Check.told("book days 10 periods 1 compound 1;tier 3600;pay 0 1000;draw 0 490;");
+        Check.due("the last day", x.bestDay(1), 9);
     }
 
     private static void lateEntries() {
@@ -128,6 +140,12 @@ public final class WhatIfTest {
         Check.due("limited 100000", x.limited(100000), Check.NO_SUCH);
         x.change(5, 6, 0);
         Check.due("on all days", x.limited(2000), 8);
+        x = Check.told("book days 10 periods 1 compound 1;debit 1800 over 3600 limit 0;draw 0 100;");
+        Check.due("-0.5 for -1", x.limited(100), 0);
+        x = Check.told("book days 10 periods 1 compound 1;debit 1800 over 3600 limit 0;draw 0 99;");
+        Check.due("-0.495 for -0.99", x.limited(99), 1);
+        x = Check.told("book days 10 periods 1 compound 1;tier 3600;pay 0 2000;");
+        Check.due("what is paid stays", x.limited(0), 0);
     }
 
     private static void needs() {
@@ -143,6 +161,11 @@ public final class WhatIfTest {
         Check.due("needs 0, 100000", x.needs(0, 100000), -2);
         Check.due("needs 20, 1", x.needs(20, 1), -2);
         Check.due("needs -1, 1", x.needs(-1, 1), -2);
+        x = Check.told("book days 10 periods 1 compound 1;tier 3600;pay 0 49;");
+        Check.due("1 is enough", x.needs(0, 1), 1);
+        Check.due("2 is not", x.needs(0, 2), 101);
+        x = Check.told("book days 10 periods 1 compound 1;tier 1799;pay 0 100;");
+        Check.due("a rate of 1 more", x.tiltFor(0, 1), 1);
         x = Check.told("book days 10 periods 1 compound 1;tier 5000;pay 0 1;");
         Check.due("all but the last", x.needs(0, 1389), 99971);
         x = Check.told("book days 2 periods 1 compound 1;tier 18;");
