@@ -252,10 +252,10 @@ public final class ValueDays {
         int first = ledger.firstDay(period);
         int behind = first + ledger.span();
         switch (what) {
-            case 0: return entries.sizeValued(period, Integer.MIN_VALUE, first);
-            case 1: return entries.sumValued(period, Integer.MIN_VALUE, first);
-            case 2: return entries.sizeValued(period, behind, Integer.MAX_VALUE);
-            case 3: return entries.sumValued(period, behind, Integer.MAX_VALUE);
+            case 0: return entries.sizeValued(period, 0, first);
+            case 1: return entries.sumValued(period, 0, first);
+            case 2: return entries.sizeValued(period, behind, Entries.BEHIND_ALL);
+            case 3: return entries.sumValued(period, behind, Entries.BEHIND_ALL);
             default: return NO_SUCH;
         }
     }
@@ -724,7 +724,7 @@ public final class ValueDays {
     private static final class Script {
         static final int BOOK = 0;
         static final int TIER = 1;
-        static final int TERMS = 2;
+        static final int DEBIT = 2;
         static final int CHANGE = 3;
         static final int MONEY = 4;
         static final int CLOSE = 5;
@@ -943,7 +943,7 @@ public final class ValueDays {
             int over = takeNumber(0, MOST_RATE);
             takeWord("limit");
             int limit = takeNumber(0, MOST_AMOUNT);
-            finish(Script.TERMS, rate, over, limit);
+            finish(Script.DEBIT, rate, over, limit);
         }
 
         private void readFrom() {
@@ -1208,6 +1208,8 @@ public final class ValueDays {
         static final int TURNED = 3;
         // 30 lines, 8 closings, 26 reruns of up to 7 periods each: 220 at most.
         static final int ROOM = 220;
+        // No value day comes near it: the latest compounding day is 360.
+        static final int BEHIND_ALL = 1000;
 
         private final int[] sorts = new int[ROOM];
         private final long[] amounts = new long[ROOM];
@@ -1378,7 +1380,7 @@ public final class ValueDays {
         }
 
         int sizeOn(int period) {
-            return sizeValued(period, Integer.MIN_VALUE, Integer.MAX_VALUE);
+            return sizeValued(period, 0, BEHIND_ALL);
         }
 
         /** Of a page those whose value day is the first one or later, and ahead of the other one. */
@@ -1516,7 +1518,7 @@ public final class ValueDays {
             int c = script.told(row, 3);
             switch (script.told(row, 0)) {
                 case Script.TIER: terms.addTier(a, b); break;
-                case Script.TERMS: terms.tellDebit(a, b, c); break;
+                case Script.DEBIT: terms.tellDebit(a, b, c); break;
                 case Script.CHANGE: terms.addChange(a, b, c); break;
                 case Script.MONEY: addEntry(Entries.MONEY, b, a, NONE); break;
                 case Script.CLOSE: closeOpen(); break;
@@ -1852,7 +1854,7 @@ public final class ValueDays {
             long[] standings = ledger.trialBalances();
             ledger.shift(standings, entries.valueOf(entry), -amount);
             long gainBehind = 0;
-            long most = Long.MIN_VALUE;
+            long most = 0;
             int best = NONE;
             for (int period = ledger.periods() - 1; period >= 0; period--) {
                 int first = Math.max(0, ledger.firstDay(period));
@@ -1862,7 +1864,7 @@ public final class ValueDays {
                 for (int day = behind - 1; day >= first; day--) {
                     products += productOf(day, standings[day] + amount) - productOf(day, standings[day]);
                     long gain = gainBehind + Ledger.nearest(products) - without;
-                    if (gain >= most) {
+                    if (best == NONE || gain >= most) {
                         most = gain;
                         best = day;
                     }
