@@ -3,6 +3,7 @@ final class Check {
     static final long NO_SUCH = Long.MIN_VALUE;
     private static int wrong = 0;
     private static int asked = 0;
+    private static String where = "";
 
     private Check() {
     }
@@ -12,9 +13,18 @@ final class Check {
         if (got != want) {
             wrong++;
             if (wrong <= 50) {
-                System.out.println(call + " answered " + got + ", due is " + want);
+                System.out.println(where + call + " answered " + got + ", due is " + want);
             }
         }
+    }
+
+    /** What stands ahead of each answer that is not as due. */
+    static void within(String test) {
+        where = test;
+    }
+
+    static int asked() {
+        return asked;
     }
 
     static boolean allRight() {
@@ -30,7 +40,9 @@ final class Check {
                 int b = from + i < text.length() ? text.charAt(from + i) & 255 : ' ';
                 n[i / 4] = n[i / 4] << 8 | b;
             }
-            x.feed(n[0], n[1], n[2], n[3], n[4]);
+            if (x.feed(n[0], n[1], n[2], n[3], n[4]) < 0) {
+                due("room on the tape for " + text, 0, 1);
+            }
         }
         x.end(had + text.length());
     }
@@ -55,6 +67,22 @@ final class Check {
         due("book() of " + text, tell(x, text), -4);
         due("fault(0) of " + text, x.fault(0), kind);
         due("fault(1) of " + text, x.fault(1), place);
+    }
+
+    /** A text whose fault is at the first byte of its second half. */
+    static void refused(String good, String bad, int kind) {
+        fault(good + bad, kind, good.length());
+    }
+
+    static void taken(String text, int lines) {
+        ValueDays x = new ValueDays();
+        due("book() of " + text, tell(x, text), lines);
+        due("fault(0) of " + text, x.fault(0), 0);
+    }
+
+    /** No such arguments: these stand for all that lie outside bounds. */
+    static int[] outside(int lowest, int highest) {
+        return new int[] {lowest - 1, highest + 1, Integer.MIN_VALUE, Integer.MAX_VALUE};
     }
 
     static void finish(String name) {
