@@ -80,6 +80,11 @@ final class Check {
         due("fault(0) of " + text, x.fault(0), 0);
     }
 
+    /** All that is told is as it was told before. */
+    static void same(String call, ValueDays x, String before) {
+        due(call + ": all is as before", Picture.of(x).equals(before) ? 1 : 0, 1);
+    }
+
     /** No such arguments: these stand for all that lie outside bounds. */
     static int[] outside(int lowest, int highest) {
         return new int[] {lowest - 1, highest + 1, Integer.MIN_VALUE, Integer.MAX_VALUE};

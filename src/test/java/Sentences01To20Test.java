@@ -161,10 +161,19 @@ public final class Sentences01To20Test {
         Check.due("an image stays", x.back(1), 0);
         Check.due("its lines", x.count(8), 4);
         Check.due("its act", x.count(7), 1);
-        Check.due("the most lines", Check.tell(x, "book days 2 periods 8 compound 1;" + "tier 1 to 1;tier 1 to 2;tier 1 to 3;tier 1;"
-            + "debit 1 over 1 limit 1;" + "from 0 limit 1;".repeat(12) + "pay 0 1;".repeat(30) + "rerun;".repeat(6)
-            + "close;".repeat(8)), 62);
-        Check.due("and again", x.count(8), 62);
+        // All that can be told of each, again and again: nothing of one is left in the next.
+        String most = "book days 2 periods 8 compound 1;tier 1 to 1;tier 1 to 2;tier 1 to 3;tier 1;debit 5 over 6 limit 7;"
+            + "from 0 limit 8;".repeat(12) + "pay 0 1;".repeat(30) + "rerun;".repeat(6) + "close;".repeat(8);
+        Check.due("the most lines", Check.tell(x, most), 62);
+        Check.due("and again", Check.tell(x, most), 62);
+        Check.due("a fault behind them", Check.tell(x, most + "x"), -4);
+        Check.due("and again", Check.tell(x, most), 62);
+        Check.due("a tier up to the last", Check.tell(x, HEAD + "tier 1 to 99999;"), 2);
+        Check.due("a lower one in the next", Check.tell(x, HEAD + "tier 1 to 1;tier 2;"), 3);
+        Check.due("a first one in the next", Check.tell(x, HEAD + "tier 3;"), 2);
+        for (int what = 0; what < 3; what++) {
+            Check.due("no debit is told: owing " + what, x.owing(0, what) + x.owing(19, what), 0);
+        }
     }
 
     @Says(at = "4", text = "-4: a FAULT (all else stays).")
@@ -173,7 +182,11 @@ public final class Sentences01To20Test {
         x.pay(1, 4);
         x.image(0);
         x.pay(2, 5);
+        String before = Picture.of(x);
+        Check.due("a fault in the first line", Check.tell(x, "book days 1"), -4);
+        Check.same("a fault in the first line", x, before);
         Check.due("a fault in the last line", Check.tell(x, HEAD + "tier 1;debit 1 over 1 limit 1;pay 0 8;close;pay 20 7;"), -4);
+        Check.same("a fault in the last line", x, before);
         Check.due("the tape is empty", x.count(9), 0);
         int[] counts = {10, 3, 2, 1, 0, 7, 1, 2, 8, 0};
         for (int what = 0; what < 10; what++) {
@@ -455,6 +468,10 @@ public final class Sentences01To20Test {
         Check.due("owed on the last day alone", x.products(0, 1), 5 * 3 + 4);
         Check.due("tiers", x.products(1, 0), 10 * 3 * 7);
         Check.due("nothing owed", x.products(1, 1), 0);
+        x = Check.told(HEAD + "tier 7;debit 3 over 4 limit 5;draw 10 6;pay 11 8;");
+        Check.due("owed on the first day of the next alone", x.products(0, 1), 0);
+        Check.due("owed on its first day", x.products(1, 1), 5 * 3 + 4);
+        Check.due("tiers on its other days", x.products(1, 0), 9 * 2 * 7);
     }
 
     @Says(at = "14", text = "NO_SUCH: there are none such.")

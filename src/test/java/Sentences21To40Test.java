@@ -47,6 +47,7 @@ public final class Sentences21To40Test {
         Check.due("behind it", x.step(1), -1);
         Check.due("far", x.step(Integer.MAX_VALUE), -1);
         Check.due("none", Check.told(HEAD).step(0), -1);
+        Check.due("none behind the last day", Check.told(HEAD + "pay 1 5;").step(1), -1);
         Check.due("below 0", x.step(-1), -2);
         Check.due("far below 0", x.step(Integer.MIN_VALUE), -2);
         Check.due("no book", new ValueDays().step(0), -2);
@@ -57,6 +58,7 @@ public final class Sentences21To40Test {
         Check.due("nothing", Check.told(HEAD).lowest(), 0);
         Check.due("on day 0", Check.told(HEAD + "pay 0 3;pay 1 3;").lowest(), 3);
         Check.due("on the last day", Check.told(HEAD + "pay 0 3;draw 19 1;").lowest(), 2);
+        Check.due("on day 1 alone", Check.told(HEAD + "pay 0 3;draw 1 8;pay 2 9;").lowest(), -5);
         Check.due("in between", Check.told(HEAD + "pay 0 3;draw 9 8;pay 10 9;").lowest(), -5);
         ValueDays x = Check.told(HEAD + "draw 0 99999;".repeat(30));
         for (int i = 0; i < 20; i++) {
@@ -120,6 +122,7 @@ public final class Sentences21To40Test {
         }
         Check.due("all days", Check.told("book days 40 periods 1 compound 1;pay 0 7;pay 39 1;").mean(0, 0), 281);
         Check.due("all days", Check.told("book days 40 periods 1 compound 1;pay 0 7;pay 39 1;").mean(0, 1), 40);
+        Check.due("not the first day of the next", Check.told(head + "pay 6 5;").mean(0, 0), 0);
     }
 
     @Says(at = "26", text = "NO_SUCH: there are none such.")
@@ -206,6 +209,20 @@ public final class Sentences21To40Test {
         // Nothing is lost from day 15 on: the first of five that are alike.
         x = Check.told(HEAD + "tier 0;from 12 tier 0 3600;from 15 tier 0 0;pay 0 9000;draw 13 5000;");
         Check.due("the first by which nothing is lost", x.bestDay(1), 15);
+        // Without it 1 comes each day: each day behind it is one that is lost.
+        x = Check.told(HEAD + "tier 3600;pay 0 1000;draw 5 1000;");
+        Check.due("as if it had not come yet", x.bestDay(1), 19);
+        // 1 is lost on day 19 in any case, none on days 15 .. 18.
+        x = Check.told(HEAD + "tier 3600;from 15 tier 0 0;from 19 tier 0 3600;pay 0 9000;draw 3 1000;");
+        Check.due("the first by which 1 is lost", x.bestDay(1), 15);
+        Check.due("far more in the second period", Check.told(HEAD + "tier 3600;pay 10 50000;pay 15 1000;").bestDay(1), 0);
+        // 0.4995 of one day is none, 0.999 of two is 1.
+        x = Check.told("book days 2 periods 2 compound 1;tier 1800;pay 3 999;");
+        Check.due("onto day 1: none and 1", x.moved(0, 1), 1);
+        Check.due("onto day 0: 1 and 1", x.bestDay(0), 0);
+        // Drawn on day 1: 1.499 are left of 1.999, on day 0: 0.999, both are 1.
+        x = Check.told("book days 2 periods 1 compound 1;tier 1800;pay 0 1999;draw 0 1000;");
+        Check.due("the first of two that are alike when rounded", x.bestDay(1), 0);
         // What is owed costs on days 0 .. 9 alone.
         x = Check.told(HEAD + "debit 3600 over 3600 limit 0;from 10 debit 0;from 10 over 0;draw 0 1000;");
         Check.due("the first day of the second period", x.bestDay(0), 10);
@@ -303,6 +320,12 @@ public final class Sentences21To40Test {
         x = Check.told("book days 10 periods 1 compound 1;tier 3600 to 1000;tier 1800;from 5 tier 1 3600;pay 0 3000;");
         Check.due("each day by itself", x.tilted(1, -2700), 10 + 3 - 25);
         Check.due("the other tier", x.tilted(0, -5000), -10);
+        // 2999970 on ten days at 5: 41.7, by a rate of 1 still 8.3.
+        x = Check.told("book days 10 periods 1 compound 1;tier 5;" + "pay 0 99999;".repeat(30));
+        Check.due("0, not 1", x.tilted(0, -5), -42);
+        Check.due("0 at least", x.tilted(0, -6), -42);
+        Check.due("1799999 and 0 more", Check.told("book days 2 periods 1 compound 1;tier 1799 to 1000;tier 999;pay 1 1001;").tilted(0, 0), 0);
+        x = Check.told("book days 10 periods 1 compound 1;tier 3600 to 1000;tier 1800;from 5 tier 1 3600;pay 0 3000;");
         Check.due("rates stay", x.rate(1, 0), 1800);
     }
 
@@ -330,6 +353,9 @@ public final class Sentences21To40Test {
         // Now 7.5 and 10; by 2000 on all days 5 and 5.
         Check.due("on all days", x.limited(2000), 8);
         Check.due("the limit stays", x.owing(5, 2), 0);
+        x = Check.told("book days 2 periods 1 compound 1;debit 1800 over 0 limit 1000;draw 1 1000;");
+        Check.due("a half below 0, as it is", x.limited(1000), 0);
+        Check.due("a little less", x.limited(999), 1);
         Check.due("nothing owed", Check.told(PAID).limited(0), 0);
     }
 
@@ -352,6 +378,7 @@ public final class Sentences21To40Test {
         Check.due("the last day", x.most(7), 100);
         x.draw(7, 100);
         Check.due("0: a later day is at its limit", x.most(2), 0);
+        Check.due("the next day is at its limit", Check.told(HEAD + "pay 0 9;draw 1 9;pay 2 9;").most(0), 0);
         Check.due("999999 and no more", Check.told(MILLION).most(3), 999999);
         Check.due("a day ahead of it", Check.told(MILLION).most(2), 9);
         Check.due("999998", Check.told(MILLION + "draw 3 1;").most(3), 999998);
@@ -495,6 +522,7 @@ public final class Sentences21To40Test {
         Check.due("the first by number", x.blame(0), 0);
         x = Check.told(HEAD + "tier 3600;draw 0 1000;pay 0 1000;pay 0 9000;");
         Check.due("-10, 10, 90", x.blame(0), 2);
+        Check.due("1 is greatest", Check.told(HEAD + "tier 3600;pay 0 1;pay 9 1000;").blame(0), 1);
         x = Check.told(HEAD + "tier 3600;draw 1 1000;pay 1 1000;pay 1 1000;");
         Check.due("9 and 9 and 9", x.blame(0), 0);
     }

@@ -25,6 +25,7 @@ public final class Sentences41To55Test {
         x.pay(10, 300);
         x.pay(19, 4000);
         x.draw(20, 50);
+        Check.due("the first entry of all", Check.told(HEAD + "pay 10 5;").backdated(0, 3), 5);
         long[] second = {2, 19, 1, -50};
         for (int what = 0; what < 4; what++) {
             Check.due("page 1, " + what, x.backdated(1, what), second[what]);
@@ -144,6 +145,8 @@ public final class Sentences41To55Test {
         Check.due("two", Check.told(LATE).rights(), 2);
         Check.due("none closed", Check.told(GROWS).rights(), 0);
         Check.due("nothing unlike", Check.told(GROWS + "close;").rights(), 0);
+        Check.due("less than a half", Check.told("book days 2 periods 2 compound 1;tier 1800;close;pay 1 999;").rights(), 0);
+        Check.due("a half", Check.told("book days 2 periods 2 compound 1;tier 1800;close;pay 1 1000;").rights(), 1);
         Check.due("by the correction ahead alone",
             Check.told("book days 10 periods 3 compound 1;tier 3600;close;close;pay 0 99999;draw 10 99999;").rights(), 2);
         Check.due("two that even out", Check.told("book days 10 periods 3 compound 3;tier 3600;debit 3600 over 3600 limit 0;close;close;"
@@ -246,6 +249,8 @@ public final class Sentences41To55Test {
         x.change(0, 0, 1800);
         Check.due("rates as known now", x.ideal(0), 250);
         Check.due("nothing there", Check.told(HEAD).ideal(1), 0);
+        Check.due("less than a half", Check.told("book days 2 periods 2 compound 1;tier 1800;pay 1 999;").ideal(0), 0);
+        Check.due("a half", Check.told("book days 2 periods 2 compound 1;tier 1800;pay 1 1000;").ideal(0), 1);
         Check.due("closed ones, too", Check.told(GROWS + "close;close;").ideal(1), 505);
     }
 
@@ -286,6 +291,14 @@ public final class Sentences41To55Test {
         for (int amount : Check.outside(0, 99999)) {
             Check.due("amount " + amount, x.planned(0, 1, amount), Check.NO_SUCH);
         }
+        for (int day = -10; day < 0; day++) {
+            Check.due("the first ahead of all days, the second on one", x.planned(day, 2, 0), Check.NO_SUCH);
+        }
+        for (int day = 0; day < 20; day++) {
+            Check.due("none", x.planned(day, 0, 0), Check.NO_SUCH);
+            Check.due("less than none", x.planned(day, -1, 0), Check.NO_SUCH);
+        }
+        Check.due("none from behind the last day", x.planned(20, 0, 0), Check.NO_SUCH);
         Check.due("the second on the last day", x.planned(9, 2, 0), 51005);
         Check.due("the second behind it", x.planned(10, 2, 0), Check.NO_SUCH);
         Check.due("the third behind it", x.planned(0, 3, 0), Check.NO_SUCH);
@@ -324,6 +337,8 @@ public final class Sentences41To55Test {
             Check.due("n " + n, x.plan(0, n), -2);
         }
         Check.due("the second behind the last day", x.plan(10, 2), -2);
+        Check.due("the first ahead of all days", x.plan(-5, 2), -2);
+        Check.due("none", x.plan(15, 0), -2);
         Check.due("none is open", Check.told(HEAD + "close;close;").plan(0, 1), -2);
         Check.due("no book", new ValueDays().plan(0, 1), -2);
     }

@@ -18,12 +18,36 @@ public final class Sentences56To65Test {
         return x;
     }
 
-    /** What a refused call leaves as it was. */
+    /** What a refused call leaves as it was: all is as in another object that was never asked for it. */
     private static void stays(String call, ValueDays x, int acts, int entries) {
         Check.due("acts behind " + call, x.count(7), acts);
         Check.due("entries behind " + call, x.count(5), entries);
         Check.due("balance behind " + call, x.balance(0), 1000);
-        Check.due("lines behind " + call, x.count(8), x.count(6) == 2 ? 5 : 3);
+        Check.same(call, x, Picture.of(withActs(x.count(6) == 2 ? CLOSED : TEXT, acts)));
+    }
+
+    /** Acts of all kinds: what is asked behind each, and behind each taken back, is alike. */
+    private static void actsAndBack(ValueDays x) {
+        String[] before = new String[8];
+        for (int act = 0; act < 8; act++) {
+            before[act] = Picture.of(x);
+            switch (act) {
+                case 0: x.draw(3, 700); break;
+                case 1: x.close(); break;
+                case 2: x.pay(0, 5000); break;
+                case 3: x.rerun(); break;
+                case 4: x.reverse(0); break;
+                case 5: x.change(4, 0, 5000); break;
+                case 6: x.rerun(); break;
+                default: x.pay(19, 99999); break;
+            }
+            Check.due("act " + act, x.count(7), act + 1);
+            Check.due("act " + act + " does something", Picture.of(x).equals(before[act]) ? 0 : 1, 1);
+        }
+        for (int act = 7; act >= 0; act--) {
+            Check.due("undo " + act, x.undo(), act);
+            Check.same("undo " + act, x, before[act]);
+        }
     }
 
     // ---- 56, 57: pay, draw
@@ -168,6 +192,12 @@ public final class Sentences56To65Test {
         Check.due("the least", x.change(0, 4, 0), 12);
         Check.due("twelve are the most of a text, not of acts", x.change(0, 5, 5000), 13);
         Check.due("it counts", x.owing(0, 1), 5000);
+        x = Check.told(HEAD + "from 0 limit 1;".repeat(12));
+        for (int i = 1; i <= 20; i++) {
+            Check.due("behind twelve", x.change(0, 6, 100 + i), 12 + i);
+            Check.due("the last told", x.owing(19, 2), 100 + i);
+        }
+        Check.due("changes", x.count(4), 32);
         x = Check.told(CLOSED);
         Check.due("no period is open", x.change(0, 0, 0), 1);
         Check.due("closed ones are as they were", x.wrong(0), -10);
@@ -254,9 +284,10 @@ public final class Sentences56To65Test {
         Check.due("no book", new ValueDays().rerun(), -2);
         ValueDays x = Check.told(CLOSED);
         x.change(0, 0, 0);
+        String before = Picture.of(x);
         Check.due("none is open", x.rerun(), -5);
         Check.due("nothing put right", x.wrong(0), -10);
-        stays("none open", x, 1, 3);
+        Check.same("none open", x, before);
         x = withActs(TEXT, 20);
         Check.due("20 acts", x.rerun(), -5);
         stays("20 acts", x, 20, 1);
@@ -313,15 +344,18 @@ public final class Sentences56To65Test {
         x.pay(0, 500);
         x.change(5, 0, 1800);
         x.image(1);
-        long settled = x.settled();
+        String kept = Picture.of(x);
         Check.tell(x, "book days 2 periods 1 compound 3;");
+        x.pay(0, 7);
+        Check.due("back", x.back(1), 0);
+        Check.same("back", x, kept);
+        Check.tell(x, "book days 40 periods 8 compound 4;tier 1 to 2;tier 3;debit 4 over 5 limit 6;pay 0 7;close;");
         Check.feed(x, "abc");
         Check.due("back", x.back(1), 0);
         int[] counts = {10, 2, 1, 1, 1, 3, 1, 3, 3, 3};
         for (int what = 0; what < 10; what++) {
             Check.due("count " + what, x.count(what), counts[what]);
         }
-        Check.due("all is as it was", x.settled(), settled);
         Check.due("its acts can be taken back", x.undo(), 2);
         Check.due("the image stays", x.back(1) + x.count(7), 3);
         x.end(0);
@@ -333,6 +367,7 @@ public final class Sentences56To65Test {
     @Says(at = "63", text = "-2: no such k; -6: it has nothing.")
     static void p63NoSuchImageOrNothing() {
         ValueDays x = Check.told(TEXT);
+        String before = Picture.of(x);
         for (int k : Check.outside(0, 2)) {
             Check.due("back " + k, x.back(k), -2);
             Check.due("without a book " + k, new ValueDays().back(k), -2);
@@ -340,6 +375,7 @@ public final class Sentences56To65Test {
         x.image(1);
         Check.due("0 has nothing", x.back(0), -6);
         Check.due("2 has nothing", x.back(2), -6);
+        Check.same("-2, -6", x, before);
         Check.due("1 has", x.back(1), 0);
         stays("-6", x, 0, 1);
         Check.due("without a book", new ValueDays().back(0), -6);
@@ -366,6 +402,8 @@ public final class Sentences56To65Test {
         Check.due("the close", x.undo(), 0);
         Check.due("open again", x.count(6), 0);
         stays("all", x, 0, 1);
+        actsAndBack(Check.told(TEXT));
+        actsAndBack(Check.told("book days 10 periods 3 compound 2;tier 3600 to 500;tier 1800;debit 3600 over 5000 limit 9;pay 5 600;"));
         x = withActs(TEXT, 20);
         Check.due("of twenty", x.undo(), 19);
         Check.due("room for one", x.pay(0, 1), 1);
@@ -387,12 +425,15 @@ public final class Sentences56To65Test {
     @Says(at = "65", text = "All are: how many there were.")
     static void p65AllAreTakenBack() {
         ValueDays x = Check.told(TEXT);
+        String before = Picture.of(x);
         Check.due("none", x.anew(), 0);
+        Check.same("none", x, before);
         x.close();
         x.pay(0, 500);
         x.rerun();
         Check.due("three", x.anew(), 3);
         stays("three", x, 0, 1);
+        Check.same("three", x, before);
         Check.due("open again", x.count(6), 0);
         x = withActs(CLOSED, 20);
         Check.due("twenty", x.anew(), 20);

@@ -183,6 +183,12 @@ public final class SentencesOfAccountTest {
         // Days together, not each by itself: 0.25 and 0.25; 0.5 less 0.5.
         Check.due("two quarters", Check.told(head + "tier 900;pay 0 1000;").fresh(0), 1);
         Check.due("evened out", Check.told(head + "tier 1800;debit 1800 over 0 limit 9999;pay 0 1000;draw 1 2000;").fresh(0), 0);
+        // 4999940 on 40 days at 5000: 277774.44.
+        ValueDays x = Check.told("book days 40 periods 1 compound 1;tier 5000;" + "pay 0 99999;".repeat(30));
+        for (int i = 0; i < 20; i++) {
+            x.pay(0, i == 0 ? 99989 : 99999);
+        }
+        Check.due("the most", x.fresh(0), 277774);
     }
 
     @Says(at = "Terms II", text = "Its COMPOUNDING day: P times K times (p by K, cut, and 1): behind the last DAY, perhaps:"
@@ -223,6 +229,9 @@ public final class SentencesOfAccountTest {
         Check.due("booked in the next", x.entry(x.pay(0, 1), 3), 1);
         Check.due("the next", x.close(), 1);
         Check.due("no more", x.close(), -5);
+        // 1798200 by 3600000; then 1800000.
+        Check.due("less than a half", Check.told("book days 2 periods 2 compound 1;tier 1800;pay 1 999;close;").booked(0), 0);
+        Check.due("a half", Check.told("book days 2 periods 2 compound 1;tier 1800;pay 1 1000;close;").booked(0), 1);
     }
 
     @Says(at = "Terms II", text = "RERUN: PERIOD by PERIOD of those closed, the first first: INTEREST as it is now"
@@ -249,6 +258,8 @@ public final class SentencesOfAccountTest {
         x = Check.told("book days 10 periods 2 compound 1;tier 3600;close;pay 0 1000;");
         Check.due("the open one is not run", x.rerun(), 1);
         Check.due("nothing of it", x.booked(1), 0);
+        Check.due("less than a half", Check.told("book days 2 periods 2 compound 1;tier 1800;close;pay 1 999;").rerun(), 0);
+        Check.due("a half", Check.told("book days 2 periods 2 compound 1;tier 1800;close;pay 1 1000;").rerun(), 1);
     }
 
     @Says(at = "Terms II", text = "PAGE of a PERIOD: ENTRIES booked in it.")
@@ -309,6 +320,8 @@ public final class SentencesOfAccountTest {
         Check.due("none is open", x.settled(), 100000 + 500 + 505 + 1010);
         x = Check.told("book days 10 periods 1 compound 4;tier 3600;pay 0 50000;");
         Check.due("a single one, value behind all days", x.settled(), 50500);
+        Check.due("less than a half", Check.told("book days 2 periods 2 compound 1;tier 1800;pay 1 999;draw 2 999;").settled(), 0);
+        Check.due("a half", Check.told("book days 2 periods 2 compound 1;tier 1800;pay 1 1000;draw 2 1000;").settled(), 1);
     }
 
     // ---- IV: paid off

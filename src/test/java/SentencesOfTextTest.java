@@ -201,6 +201,9 @@ public final class SentencesOfTextTest {
         x = Check.told(HEAD + "from 4 debit 7;debit 1 over 2 limit 3;");
         Check.due("told", x.owing(3, 0), 1);
         Check.due("the change", x.owing(4, 0), 7);
+        x = Check.told(HEAD + "from 0 debit 7;debit 1 over 2 limit 3;");
+        Check.due("the change of day 0", x.owing(0, 0), 7);
+        Check.due("the others are told", 10 * x.owing(0, 1) + x.owing(0, 2), 23);
     }
 
     @Says(at = "Terms I", text = "pay, draw: ENTRIES, 30 at most: V: a DAY, A 1 .. 99999.")
@@ -270,6 +273,12 @@ public final class SentencesOfTextTest {
         Check.refused("book days ", "1 0 periods 2 compound 1;", 2);
         Check.refused(HEAD + "pay 0 1 ", "2;", 1);
         Check.refused(HEAD, "closea;", 1);
+        Check.refused(HEAD, "closez;", 1);
+        // Another first letter, another last one.
+        for (String word : new String[] {"xier 5;", "tiex 5;", "ray 0 1;", "pax 0 1;", "craw 0 1;", "drab 0 1;", "blose;", "closd;"}) {
+            Check.refused(HEAD, word, 1);
+        }
+        Check.refused("", "cook days 10 periods 2 compound 1;", 1);
         Check.refused(HEAD + "close", "A;", 1);
         // The signs next to a .. z, 0 .. 9, the other blanks, 0, 127, 128, 255 are none.
         for (int sign : new int[] {'`', '{', '@', 'A', 'Z', '[', '/', ':', '-', '+', '.', '_', 9, 11, 13, 31, 33, 0, 127, 128, 160, 255}) {
