@@ -3,7 +3,10 @@ import java.util.ArrayList;
 import java.util.List;
 import java.util.Random;
 
-/** Long random runs on the class and on PlainBook: every answer is the same. */
+/**
+ * Long random runs on the class and on PlainBook: every answer is the same. Every third run is on full books: many
+ * periods closed, entries for days long gone, reruns between them, so that there are many corrections.
+ */
 public final class ModelTest {
     private static final String[] ACTS = {"pay", "draw", "pay", "draw", "reverse", "change", "close", "rerun"};
     private static final String[] OTHERS = {"image", "back", "undo", "anew", "feed", "end", "book"};
@@ -14,10 +17,12 @@ public final class ModelTest {
     private int calls = 0;
     private int p = 2;
     private int n = 1;
-    private boolean wellFed = true;
+    private boolean full = false;
+    private boolean rerunNext = false;
 
     private ModelTest(long seed) {
         random = new Random(seed);
+        full = seed % 3 == 0;
     }
 
     public static void main(String[] args) throws Exception {
@@ -40,12 +45,13 @@ public final class ModelTest {
         tell();
         while (calls < 512 && Check.allRight()) {
             int dice = random.nextInt(100);
-            if (dice < 1) {
+            // Without a book there is little to ask: another one comes soon.
+            if (dice < (plain.count(8) == 0 ? 15 : 1)) {
                 tell();
             } else if (dice < 4) {
                 call(named(OTHERS[random.nextInt(OTHERS.length)]));
             } else if (dice < 14) {
-                call(named(ACTS[random.nextInt(ACTS.length)]));
+                callAct();
             } else {
                 call(asks.get(random.nextInt(asks.size())));
             }
@@ -54,6 +60,12 @@ public final class ModelTest {
             System.out.println("seed " + seed + ":");
             told.forEach(System.out::println);
         }
+    }
+
+    /** On full books a rerun comes behind every act that may have made closed periods wrong. */
+    private void callAct() throws Exception {
+        rerunNext = full && !rerunNext;
+        call(named(full && !rerunNext ? "rerun" : ACTS[random.nextInt(ACTS.length - (full ? 2 : 0))]));
     }
 
     private static boolean isOneOf(String name, String[] names) {
@@ -159,8 +171,8 @@ public final class ModelTest {
     // ---- texts
 
     private void tell() throws Exception {
-        String text = text();
-        if (random.nextInt(3) == 0) {
+        String text = full ? fullText() : text();
+        if (random.nextInt(full ? 10 : 3) == 0) {
             text = spoiled(text);
         }
         if (text.length() > 900) {
@@ -237,6 +249,38 @@ public final class ModelTest {
             } else if (dice == 11 && closes < n && reruns < 6) {
                 reruns++;
                 b.append("rerun;");
+            }
+        }
+        return b.toString();
+    }
+
+    private String fullText() {
+        p = 2 + random.nextInt(random.nextBoolean() ? 39 : 9);
+        n = 4 + random.nextInt(5);
+        StringBuilder b = new StringBuilder();
+        b.append("book days ").append(p).append(" periods ").append(n).append(" compound ").append(1 + random.nextInt(4)).append(";");
+        int tiers = 1 + random.nextInt(4);
+        for (int t = 0; t < tiers; t++) {
+            b.append("tier ").append(1000 + random.nextInt(4001));
+            b.append(t == 3 && random.nextBoolean() ? "" : " to " + (t * 20000 + 1 + random.nextInt(20000))).append(";");
+        }
+        b.append("debit ").append(1000 + random.nextInt(4001)).append(" over ").append(1000 + random.nextInt(4001));
+        b.append(" limit ").append(random.nextInt(30000)).append(";");
+        int closes = random.nextInt(5) == 0 ? n : n - 1;
+        int reruns = 0;
+        int moneys = 0;
+        int closed = 0;
+        while (closed < closes && b.length() < 860) {
+            int dice = random.nextInt(8);
+            if (dice < 4 && moneys < 30) {
+                moneys++;
+                b.append(random.nextInt(3) > 0 ? "pay " : "draw ").append(random.nextInt(p * n)).append(' ').append(1000 + random.nextInt(99000)).append(";");
+            } else if (dice < 5 && reruns < 6) {
+                reruns++;
+                b.append("rerun;");
+            } else if (dice < 6) {
+                closed++;
+                b.append("close;");
             }
         }
         return b.toString();
