@@ -4,6 +4,7 @@ import java.lang.reflect.Modifier;
 import java.nio.charset.StandardCharsets;
 import java.nio.file.Files;
 import java.nio.file.Path;
+import java.util.Arrays;
 import java.util.Comparator;
 import java.util.List;
 import java.util.regex.Matcher;
@@ -31,6 +32,7 @@ public final class ReadmeTest {
             remove(root);
         }
         checkNames(page);
+        checkRefusals();
         Check.finish("ReadmeTest");
     }
 
@@ -72,6 +74,30 @@ public final class ReadmeTest {
             boolean there = Files.exists(Path.of("src/test/java", named.group(1) + ".java"));
             Check.due("a test that the page names: " + named.group(1), there ? 1 : 0, 1);
         }
+    }
+
+    /** What the page says of answers where there are none such: here without a book, by numbers that nothing has. */
+    private static void checkRefusals() throws Exception {
+        List<String> toldByNone = List.of("end", "fault", "count", "rate", "owing", "compounds");
+        for (Method m : ValueDays.class.getDeclaredMethods()) {
+            if (!Modifier.isPublic(m.getModifiers()) || List.of("feed", "book").contains(m.getName())) {
+                continue;
+            }
+            Object[] numbers = new Object[m.getParameterCount()];
+            Arrays.fill(numbers, Integer.MAX_VALUE);
+            long want = m.getReturnType() == long.class ? Check.NO_SUCH : toldByNone.contains(m.getName()) ? -1 : -2;
+            Check.due(m.getName() + " where there are none such", ((Number) m.invoke(new ValueDays(), numbers)).longValue(), want);
+        }
+        ValueDays x = new ValueDays();
+        for (int i = 0; i < 45; i++) {
+            x.feed(0, 0, 0, 0, 0);
+        }
+        Check.due("feed on a full tape", x.feed(0, 0, 0, 0, 0), -1);
+        Check.due("book of a faulty text", x.book(), -4);
+        Check.due("an image that has nothing", x.back(0), -6);
+        ValueDays told = Check.told("book days 2 periods 1 compound 1;close;");
+        Check.due("an act that can't be done now", told.pay(0, 1), -5);
+        Check.due("none to take back", told.undo(), -5);
     }
 
     private static List<String> blocks(String page, String kind) {
